@@ -700,7 +700,9 @@ public final class VacantAir {
         int reason;
 
         State() {
-            copyRow(FIRST_VALUES, settings);
+            for (int setting = 0; setting < SETTINGS; setting++) {
+                settings[setting] = FIRST_VALUES[setting];
+            }
         }
 
         void copyFrom(State other) {

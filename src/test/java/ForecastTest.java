@@ -42,8 +42,7 @@ public final class ForecastTest {
         check.due("an event", book.vacant(3, 0), 97 - 6);
         book.pass(1);
         check.due("it ended", book.vacant(3, 0), 97);
-        book.addStation(50, 50, 7, 4);
-        book.wake(1);
+        check.due("channel 7", book.vacant(7, 3), 100);
         book.addDevice(55, 55, 3);
         book.lease(0, 0, 9);
         check.due("leases do not count", book.vacant(0, 0), 100);
@@ -65,6 +64,7 @@ public final class ForecastTest {
         check.due("power 0 at 12", book.allowedFrom(0, 50, 62, 0), 7);
         check.due("power 1 at 12", book.allowedFrom(0, 50, 62, 1), 9999);
         check.due("another channel", book.allowedFrom(1, 50, 50, 3), 7);
+        check.due("channel 7", book.allowedFrom(7, 50, 50, 3), 7);
         book.cancel(0);
         check.due("cancelled", book.allowedFrom(0, 50, 50, 3), 7);
     }

@@ -12,6 +12,10 @@ public final class HistoryTest {
         restoreIsRecorded();
         slotsKeepCopies();
         textIsNoState();
+        eachRecordedCallIsUndone();
+        eachIsRestored();
+        othersOfTheSameNumber();
+        countsAreUndone();
         check.end();
     }
 
@@ -203,5 +207,179 @@ public final class HistoryTest {
         check.due("restore leaves the text", book.total(12), 6);
         check.due("run", book.run(), 2);
         check.due("hour", book.total(0), 4);
+    }
+
+    /** A book in which something of everything has happened. */
+    private static VacantAir richBook() {
+        VacantAir book = new VacantAir();
+        book.addDevice(50, 50, 3);
+        book.addDevice(10, 10, 2);
+        book.addDevice(90, 90, 1);
+        book.addDevice(50, 10, 0);
+        int[] channels = {1, 4, 7, 0};
+        for (int station = 0; station < 4; station++) {
+            book.addStation(10 + station / 3 * 40, 10 + station / 3 * 40, channels[station], 2);
+        }
+        book.addStation(90, 90, 2, 1);
+        book.addEvent(50, 90, 7, 6, 3, 80);
+        book.set(0, 100);
+        book.set(1, 1);
+        check.due("lease", book.lease(0, 3, 90), 0);
+        check.due("lease", book.lease(1, 2, 90), 1);
+        check.due("lease", book.lease(2, 1, 90), 2);
+        check.due("wake", book.wake(0), 1);
+        check.due("wake", book.wake(1), 1);
+        check.due("wake", book.wake(2), 1);
+        check.due("wake", book.wake(3), 2);
+        check.due("a hop and a strike", book.pass(1), 1);
+        book.set(1, 12);
+        book.set(2, 0);
+        check.due("wake", book.wake(4), 1);
+        check.due("a cut", book.pass(1), 0);
+        book.set(2, 7);
+        check.due("lease", book.lease(3, 0, 80), 0);
+        check.due("lease", book.lease(2, 1, 60), 4);
+        check.due("refused", book.lease(1, 0, 80), VacantAir.REFUSED);
+        check.due("hops", book.device(0, 7), 1);
+        check.due("struck", book.device(1, 8), 1);
+        check.due("cut", book.device(2, 9), 1);
+        return book;
+    }
+
+    private static final int CALLS = 14;
+
+    private static int recordedCall(VacantAir book, int call) {
+        switch (call) {
+            case 0: return book.addStation(1, 2, 3, 4);
+            case 1: return book.addEvent(50, 10, 30, 0, 2, 4);
+            case 2: return book.addDevice(1, 2, 3);
+            case 3: return book.set(0, 3);
+            case 4: return book.set(1, 3);
+            case 5: return book.set(2, 0);
+            case 6: return book.sleep(0);
+            case 7: return book.cancel(0);
+            case 8: return book.renew(0, 5);
+            case 9: return book.giveBack(3);
+            case 10: return book.pass(99);
+            case 11: return book.run();
+            case 12: return book.restore(1);
+            default:
+                book.giveBack(0);
+                return book.lease(0, 1, 7);
+        }
+    }
+
+    private static void eachRecordedCallIsUndone() {
+        for (int call = 0; call < CALLS; call++) {
+            VacantAir book = richBook();
+            check.write(book, "z4;t12;l1p0h3;");
+            int[] before = look(book);
+            check.due("a slot with what is now", book.save(1), 2);
+            int answer = recordedCall(book, call);
+            check.due("call " + call + " is no error", answer >= 0 ? 1 : 0, 1);
+            if (call != 12) {
+                check.due("call " + call + " changes something", same(look(book), before) ? 1 : 0, 0);
+            }
+            check.due("undo of call " + call, book.undo(), 4);
+            if (call == CALLS - 1) {
+                check.due("undo of its giving back", book.undo(), 3);
+            }
+            check.due("call " + call + " is undone", same(look(book), before) ? 1 : 0, 1);
+        }
+    }
+
+    private static void eachIsRestored() {
+        for (int call = 0; call < CALLS; call++) {
+            VacantAir book = richBook();
+            check.write(book, "z4;t12;l1p0h3;");
+            int[] before = look(book);
+            check.due("save", book.save(1), 2);
+            check.due("call " + call + " is no error", recordedCall(book, call) >= 0 ? 1 : 0, 1);
+            check.due("restore", book.restore(1), 2);
+            check.due("call " + call + " is gone", same(look(book), before) ? 1 : 0, 1);
+        }
+    }
+
+    private static void othersOfTheSameNumber() {
+        VacantAir book = new VacantAir();
+        book.addStation(1, 2, 3, 4);
+        book.addEvent(5, 6, 7, 1, 9, 10);
+        book.addDevice(11, 12, 3);
+        int[] before = look(book);
+        book.save(0);
+        book.undo();
+        book.undo();
+        book.undo();
+        book.addStation(21, 22, 5, 2);
+        book.wake(0);
+        book.addEvent(25, 26, 27, 2, 29, 30);
+        book.cancel(0);
+        book.addDevice(31, 32, 1);
+        int[] others = look(book);
+        book.restore(0);
+        check.due("restored", same(look(book), before) ? 1 : 0, 1);
+        book.undo();
+        check.due("undone", same(look(book), others) ? 1 : 0, 1);
+    }
+
+    private static void countsAreUndone() {
+        VacantAir book = richBook();
+        book.set(1, 1);
+        book.addEvent(90, 90, 30, 4, 3, 9);
+        book.set(2, 0);
+        int[] before = look(book);
+        check.due("a hop", book.pass(2), 1);
+        check.due("hops", book.total(7), 2);
+        check.due("undo", book.undo(), 4);
+        check.due("the hop is undone", same(look(book), before) ? 1 : 0, 1);
+        book.set(1, 12);
+        before = look(book);
+        book.pass(2);
+        check.due("cuts", book.total(9), 2);
+        check.due("undo", book.undo(), 4);
+        check.due("the cut is undone", same(look(book), before) ? 1 : 0, 1);
+        strikeIsUndone();
+    }
+
+    private static void strikeIsUndone() {
+        VacantAir book = new VacantAir();
+        book.addDevice(50, 50, 0);
+        book.set(0, 100);
+        book.set(1, 1);
+        book.lease(0, 0, 9);
+        for (int station = 0; station < 3; station++) {
+            book.addStation(50, 50, 3 * station + 1, 0);
+            book.wake(station);
+        }
+        int[] before = look(book);
+        book.pass(1);
+        check.due("struck", book.total(8), 1);
+        check.due("undo", book.undo(), 4);
+        check.due("the strike is undone", same(look(book), before) ? 1 : 0, 1);
+    }
+
+    private static boolean same(int[] one, int[] other) {
+        return java.util.Arrays.equals(one, other);
+    }
+
+    /** All properties of all things, and the totals but for the length of the history. */
+    private static int[] look(VacantAir book) {
+        int[] seen = new int[16 + 16 * (11 + 8 + 7)];
+        int at = 0;
+        for (int property = 0; property < 16; property++) {
+            seen[at++] = property == 11 ? 0 : book.total(property);
+        }
+        for (int number = 0; number < 16; number++) {
+            for (int property = 0; property < 11; property++) {
+                seen[at++] = book.device(number, property);
+            }
+            for (int property = 0; property < 8; property++) {
+                seen[at++] = book.event(number, property);
+            }
+            for (int property = 0; property < 7; property++) {
+                seen[at++] = book.station(number, property);
+            }
+        }
+        return seen;
     }
 }
