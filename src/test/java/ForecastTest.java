@@ -252,7 +252,7 @@ public final class ForecastTest {
         VacantAir book = threatened();
         book.wake(0);
         book.sleep(0);
-        int[] before = look(book);
+        int[] before = Look.at(book);
         int history = book.total(11);
         for (int hours = 0; hours < 100; hours += 9) {
             book.channelIn(0, hours);
@@ -263,32 +263,9 @@ public final class ForecastTest {
         book.vacant(0, 3);
         book.station(0, 6);
         book.offer(0, 3);
-        int[] after = look(book);
-        for (int i = 0; i < before.length; i++) {
-            check.due("look " + i, after[i], before[i]);
-        }
+        check.due("nothing changes", Look.same(book, before) ? 1 : 0, 1);
         check.due("history", book.total(11), history);
         check.due("undo", book.undo(), history - 1);
         check.due("awake", book.station(0, 5), 1);
-    }
-
-    private static int[] look(VacantAir book) {
-        int[] seen = new int[16 + 2 * 11 + 2 * 8 + 7];
-        int at = 0;
-        for (int property = 0; property < 16; property++) {
-            seen[at++] = book.total(property);
-        }
-        for (int property = 0; property < 11; property++) {
-            seen[at++] = book.device(0, property);
-            seen[at++] = book.device(1, property);
-        }
-        for (int property = 0; property < 8; property++) {
-            seen[at++] = book.event(0, property);
-            seen[at++] = book.event(1, property);
-        }
-        for (int property = 0; property < 7; property++) {
-            seen[at++] = book.station(0, property);
-        }
-        return seen;
     }
 }

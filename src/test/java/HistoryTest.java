@@ -273,18 +273,18 @@ public final class HistoryTest {
         for (int call = 0; call < CALLS; call++) {
             VacantAir book = richBook();
             check.write(book, "z4;t12;l1p0h3;");
-            int[] before = look(book);
+            int[] before = Look.at(book);
             check.due("a slot with what is now", book.save(1), 2);
             int answer = recordedCall(book, call);
             check.due("call " + call + " is no error", answer >= 0 ? 1 : 0, 1);
             if (call != 12) {
-                check.due("call " + call + " changes something", same(look(book), before) ? 1 : 0, 0);
+                check.due("call " + call + " changes something", Look.same(book, before) ? 1 : 0, 0);
             }
             check.due("undo of call " + call, book.undo(), 4);
             if (call == CALLS - 1) {
                 check.due("undo of its giving back", book.undo(), 3);
             }
-            check.due("call " + call + " is undone", same(look(book), before) ? 1 : 0, 1);
+            check.due("call " + call + " is undone", Look.same(book, before) ? 1 : 0, 1);
         }
     }
 
@@ -292,11 +292,11 @@ public final class HistoryTest {
         for (int call = 0; call < CALLS; call++) {
             VacantAir book = richBook();
             check.write(book, "z4;t12;l1p0h3;");
-            int[] before = look(book);
+            int[] before = Look.at(book);
             check.due("save", book.save(1), 2);
             check.due("call " + call + " is no error", recordedCall(book, call) >= 0 ? 1 : 0, 1);
             check.due("restore", book.restore(1), 2);
-            check.due("call " + call + " is gone", same(look(book), before) ? 1 : 0, 1);
+            check.due("call " + call + " is gone", Look.same(book, before) ? 1 : 0, 1);
         }
     }
 
@@ -305,7 +305,7 @@ public final class HistoryTest {
         book.addStation(1, 2, 3, 4);
         book.addEvent(5, 6, 7, 1, 9, 10);
         book.addDevice(11, 12, 3);
-        int[] before = look(book);
+        int[] before = Look.at(book);
         book.save(0);
         book.undo();
         book.undo();
@@ -315,11 +315,11 @@ public final class HistoryTest {
         book.addEvent(25, 26, 27, 2, 29, 30);
         book.cancel(0);
         book.addDevice(31, 32, 1);
-        int[] others = look(book);
+        int[] others = Look.at(book);
         book.restore(0);
-        check.due("restored", same(look(book), before) ? 1 : 0, 1);
+        check.due("restored", Look.same(book, before) ? 1 : 0, 1);
         book.undo();
-        check.due("undone", same(look(book), others) ? 1 : 0, 1);
+        check.due("undone", Look.same(book, others) ? 1 : 0, 1);
     }
 
     private static void countsAreUndone() {
@@ -327,17 +327,17 @@ public final class HistoryTest {
         book.set(1, 1);
         book.addEvent(90, 90, 30, 4, 3, 9);
         book.set(2, 0);
-        int[] before = look(book);
+        int[] before = Look.at(book);
         check.due("a hop", book.pass(2), 1);
         check.due("hops", book.total(7), 2);
         check.due("undo", book.undo(), 4);
-        check.due("the hop is undone", same(look(book), before) ? 1 : 0, 1);
+        check.due("the hop is undone", Look.same(book, before) ? 1 : 0, 1);
         book.set(1, 12);
-        before = look(book);
+        before = Look.at(book);
         book.pass(2);
         check.due("cuts", book.total(9), 2);
         check.due("undo", book.undo(), 4);
-        check.due("the cut is undone", same(look(book), before) ? 1 : 0, 1);
+        check.due("the cut is undone", Look.same(book, before) ? 1 : 0, 1);
         strikeIsUndone();
     }
 
@@ -351,35 +351,10 @@ public final class HistoryTest {
             book.addStation(50, 50, 3 * station + 1, 0);
             book.wake(station);
         }
-        int[] before = look(book);
+        int[] before = Look.at(book);
         book.pass(1);
         check.due("struck", book.total(8), 1);
         check.due("undo", book.undo(), 4);
-        check.due("the strike is undone", same(look(book), before) ? 1 : 0, 1);
-    }
-
-    private static boolean same(int[] one, int[] other) {
-        return java.util.Arrays.equals(one, other);
-    }
-
-    /** All properties of all things, and the totals but for the length of the history. */
-    private static int[] look(VacantAir book) {
-        int[] seen = new int[16 + 16 * (11 + 8 + 7)];
-        int at = 0;
-        for (int property = 0; property < 16; property++) {
-            seen[at++] = property == 11 ? 0 : book.total(property);
-        }
-        for (int number = 0; number < 16; number++) {
-            for (int property = 0; property < 11; property++) {
-                seen[at++] = book.device(number, property);
-            }
-            for (int property = 0; property < 8; property++) {
-                seen[at++] = book.event(number, property);
-            }
-            for (int property = 0; property < 7; property++) {
-                seen[at++] = book.station(number, property);
-            }
-        }
-        return seen;
+        check.due("the strike is undone", Look.same(book, before) ? 1 : 0, 1);
     }
 }

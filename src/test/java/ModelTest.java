@@ -30,7 +30,33 @@ public final class ModelTest {
             test.play(run);
             wrongRuns += test.wrong ? 1 : 0;
         }
+        texts();
         check.end();
+    }
+
+    /** Good texts with each byte in each place, and each of their beginnings. */
+    private static void texts() {
+        String[] good = {"l0p0h1;", "l15p3h99;", "g0;w0;", "g10;z7;", "t1;t10;", "t99;l9p2h30;g5;"};
+        for (String text : good) {
+            for (int at = 0; at < text.length(); at++) {
+                fault(text.substring(0, at));
+                for (char b = 32; b <= 126; b++) {
+                    fault(text.substring(0, at) + b + text.substring(at + 1));
+                    fault(text.substring(0, at) + b + text.substring(at));
+                    fault(text.substring(0, at) + b);
+                }
+            }
+        }
+    }
+
+    private static void fault(String text) {
+        VacantAir book = new VacantAir();
+        PlainBook plain = new PlainBook();
+        for (int i = 0; i < text.length(); i++) {
+            book.append(text.charAt(i));
+            plain.call("append", text.charAt(i));
+        }
+        check.due("fault of " + text, book.faultPosition(), plain.call("faultPosition"));
     }
 
     private int below(int bound) {
