@@ -104,5 +104,38 @@ public final class FaceTest {
         while (word.find()) {
             holds("no '" + word.group() + "' in the source", false);
         }
+        holds("no text constants", code.indexOf('"') < 0);
+        library(code);
+        methods(code);
+    }
+
+    /** Each name that begins like a class's name is one of the file's own, or of the little library used. */
+    private static void library(String code) {
+        Set<String> known = new TreeSet<>(Arrays.asList("VacantAir", "Math.min", "System.arraycopy"));
+        for (Class<?> nested : VacantAir.class.getDeclaredClasses()) {
+            known.add(nested.getSimpleName());
+        }
+        Matcher name = Pattern.compile("\\b[A-Z]+[a-z]\\w*(\\.\\w+)?").matcher(code);
+        while (name.find()) {
+            holds(name.group() + " is known", known.contains(name.group()));
+        }
+    }
+
+    /** The file's form is regular: a method begins at 4 or 8 blanks and ends with a brace at the same depth. */
+    private static void methods(String code) {
+        Matcher method = Pattern.compile("(?ms)^( {4}| {8})(?! |class|interface)[^;={}]*?\\(([^;={}()]*)\\) \\{\n(.*?)^\\1\\}\n")
+            .matcher(code);
+        int found = 0;
+        while (method.find()) {
+            found++;
+            String head = method.group().substring(0, method.group().indexOf('{')).trim();
+            holds(head + " takes at most seven", method.group(2).split(",").length <= 7);
+            holds(head + " is short", method.group(3).split("\n").length <= 60);
+        }
+        int written = VacantAir.class.getDeclaredMethods().length + 1;
+        for (Class<?> nested : VacantAir.class.getDeclaredClasses()) {
+            written += nested.getDeclaredMethods().length;
+        }
+        holds(found + " methods of " + written + " were looked at", found >= written);
     }
 }
